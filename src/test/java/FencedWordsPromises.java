@@ -612,6 +612,15 @@ public final class FencedWordsPromises {
     due("snapshot(17, 1)", x.snapshot(17, 1), LOST);
     due("recover()", x.recover(), DONE);
     due("seen(16)", x.seen(16), 16);
+    x.begin();
+    x.snapshot(16, 2);
+    x.store(17, 99);
+    x.arm(1, 0);
+    due("store(16, 99)", x.store(16, 99), LOST);
+    // Word 17 was seen as 99 before the loss, and is not so in the recovery that a loss cuts short.
+    x.arm(1, ALL_WORDS);
+    due("recover()", x.recover(), LOST);
+    due("kept(17)", x.kept(17), 17);
   }
 
   private static void recoverLosesPowerAgainAndAgain() {
