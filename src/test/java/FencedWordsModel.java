@@ -7,8 +7,11 @@ import java.util.Random;
  * written down as the whole list of its acts, then the acts are done one by one.
  */
 public final class FencedWordsModel {
-  private static final int RUNS = 6000;
-  private static final int CALLS = 512;
+  private static final int RUNS = 40000;
+  // Nothing is promised about an object after so many calls, questions included.
+  private static final int MOST_CALLS = 512;
+  private static final int CALLS_A_STEP = 8;
+  private static final int CALLS_AT_THE_END = 73;
 
   private enum Kind { STORE, FLUSH, FENCE, NOTHING, WRITE, KEEP, CROSS, GONE }
 
@@ -237,13 +240,19 @@ public final class FencedWordsModel {
     FencedWords x = new FencedWords();
     Model m = new Model();
     boolean rough = run % 4 == 0;
-    for (int call = 0; call < CALLS && wrong < 20; call++) {
-      oneCall(run, call, random, rough, x, m);
-      compare(run, call, x, m);
+    int steps = (MOST_CALLS - CALLS_AT_THE_END) / CALLS_A_STEP;
+    for (int step = 0; step < steps && wrong < 20; step++) {
+      oneCall(run, step, random, rough, x, m);
+      compareWord(run, step, random.nextInt(34) - 1, x, m);
+      compareRest(run, step, x, m);
     }
+    for (int w = -1; w <= 32; w++) {
+      compareWord(run, steps, w, x, m);
+    }
+    compareRest(run, steps, x, m);
   }
 
-  private static void oneCall(int run, int call, Random random, boolean rough, FencedWords x, Model m) {
+  private static void oneCall(int run, int step, Random random, boolean rough, FencedWords x, Model m) {
     int a = random.nextInt(rough ? 36 : 32) - (rough ? 2 : 0);
     int n = random.nextInt(rough ? 11 : 8) + (rough ? -1 : 1);
     if (!rough && a + n > 32) {
@@ -265,44 +274,45 @@ public final class FencedWordsModel {
     if (kind < 2) {
       int acts = random.nextInt(8) == 0 ? random.nextInt(520) - 10 : random.nextInt(25);
       long mask = random.nextInt(3) == 0 ? -random.nextInt(2) : random.nextLong();
-      due(run, call, "arm(" + acts + ", " + mask + ")", x.arm(acts, mask) ? 1 : 0, m.arm(acts, mask) ? 1 : 0);
+      due(run, step, "arm(" + acts + ", " + mask + ")", x.arm(acts, mask) ? 1 : 0, m.arm(acts, mask) ? 1 : 0);
     } else if (kind < 3) {
-      count(run, call, "begin()", x.begin(), m.begin());
+      count(run, step, "begin()", x.begin(), m.begin());
     } else if (kind < 8) {
-      count(run, call, "snapshot(" + a + ", " + n + ")", x.snapshot(a, n), m.snapshot(a, n));
+      count(run, step, "snapshot(" + a + ", " + n + ")", x.snapshot(a, n), m.snapshot(a, n));
     } else if (kind < 17) {
-      count(run, call, "store(" + a + ", " + v + ")", x.store(a, v), m.store(a, v));
+      count(run, step, "store(" + a + ", " + v + ")", x.store(a, v), m.store(a, v));
     } else if (kind < 18) {
-      count(run, call, "commit()", x.commit(), m.commit());
+      count(run, step, "commit()", x.commit(), m.commit());
     } else if (kind < 19) {
-      count(run, call, "abort()", x.abort(), m.abort());
+      count(run, step, "abort()", x.abort(), m.abort());
     } else {
-      count(run, call, "recover()", x.recover(), m.recover());
+      count(run, step, "recover()", x.recover(), m.recover());
     }
   }
 
-  private static void count(int run, int call, String text, int got, int want) {
+  private static void count(int run, int step, String text, int got, int want) {
     answers[-want]++;
-    due(run, call, text, got, want);
+    due(run, step, text, got, want);
   }
 
-  private static void compare(int run, int call, FencedWords x, Model m) {
-    for (int w = -1; w <= 32; w++) {
-      boolean word = w >= 0 && w < 32;
-      due(run, call, "seen(" + w + ")", x.seen(w), word && m.on ? m.seen[w] : 0);
-      due(run, call, "kept(" + w + ")", x.kept(w), word ? m.kept[w] : 0);
-    }
-    due(run, call, "on()", x.on() ? 1 : 0, m.on ? 1 : 0);
-    due(run, call, "open()", x.open() ? 1 : 0, m.open ? 1 : 0);
-    due(run, call, "records()", x.records(), m.log.size());
-    due(run, call, "taken()", x.taken(), m.cells());
-    due(run, call, "meter()", x.meter(), m.meter);
+  private static void compareWord(int run, int step, int w, FencedWords x, Model m) {
+    boolean word = w >= 0 && w < 32;
+    due(run, step, "seen(" + w + ")", x.seen(w), word && m.on ? m.seen[w] : 0);
+    due(run, step, "kept(" + w + ")", x.kept(w), word ? m.kept[w] : 0);
   }
 
-  private static void due(int run, int call, String text, long got, long want) {
+  private static void compareRest(int run, int step, FencedWords x, Model m) {
+    due(run, step, "on()", x.on() ? 1 : 0, m.on ? 1 : 0);
+    due(run, step, "open()", x.open() ? 1 : 0, m.open ? 1 : 0);
+    due(run, step, "records()", x.records(), m.log.size());
+    due(run, step, "taken()", x.taken(), m.cells());
+    due(run, step, "meter()", x.meter(), m.meter);
+  }
+
+  private static void due(int run, int step, String text, long got, long want) {
     if (got != want) {
       wrong++;
-      System.out.println("run " + run + ", call " + call + ": " + text + " answered " + got + ", due is " + want);
+      System.out.println("run " + run + ", step " + step + ": " + text + " answered " + got + ", due is " + want);
     }
   }
 }
