@@ -103,7 +103,7 @@ public final class FencedWordsTermEdges {
     says("An object is used for at most 512 calls after it has been made");
     FencedWords x = new FencedWords();
     int calls = 0;
-    for (int round = 1; round <= 73; round++) {
+    for (int round = 1; round <= 72; round++) {
       due("begin()", x.begin(), DONE);
       for (int a = 0; a < 32; a += 8) {
         due("snapshot(" + a + ", 8)", x.snapshot(a, 8), DONE);
@@ -112,9 +112,16 @@ public final class FencedWordsTermEdges {
       due("abort()", x.abort(), DONE);
       calls += 7;
     }
-    due("calls before the last", calls, 511);
-    // 55 acts append the five records, 35 + 4 + 1 + 3 undo them.
-    due("meter(), the 512th call", x.meter(), 73 * (55 + 43));
+    due("calls so far", calls, 504);
+    due("arm(12, 0)", x.arm(12, 0), true);
+    due("begin()", x.begin(), DONE);
+    due("snapshot(0, 8)", x.snapshot(0, 8), LOST);
+    due("records()", x.records(), 1);
+    due("recover()", x.recover(), DONE);
+    due("begin()", x.begin(), DONE);
+    due("commit()", x.commit(), DONE);
+    // A round appends five records with 55 acts and undoes them with 35 + 4 + 1 + 3.
+    due("meter(), the 512th call", x.meter(), 72 * (55 + 43) + 12 + 8 + 1 + 1 + 3);
   }
 
   private static void manyLosses() {
