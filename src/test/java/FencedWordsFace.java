@@ -21,6 +21,11 @@ public final class FencedWordsFace {
     int modifiers = FencedWords.class.getModifiers();
     right &= Modifier.isPublic(modifiers) && Modifier.isFinal(modifiers);
     right &= noPrivateMethodBearsAPublicName();
+    right &= keepsToTheLanguage(FencedWords.class);
+    for (Class<?> inside : FencedWords.class.getDeclaredClasses()) {
+      right &= isHiddenAndStatic(inside);
+      right &= keepsToTheLanguage(inside);
+    }
     System.out.println(right ? "the face is as due" : "the face is not as due");
     if (!right) {
       System.exit(1);
@@ -59,6 +64,38 @@ public final class FencedWordsFace {
         System.out.println("private method with a public name: " + m.getName());
         right = false;
       }
+    }
+    return right;
+  }
+
+  private static boolean isHiddenAndStatic(Class<?> inside) {
+    int modifiers = inside.getModifiers();
+    boolean right = Modifier.isStatic(modifiers) && !Modifier.isPublic(modifiers) && !Modifier.isProtected(modifiers);
+    return holds(inside + " is static and can't be seen from outside", right);
+  }
+
+  private static boolean keepsToTheLanguage(Class<?> c) {
+    boolean right = true;
+    int fields = 0;
+    for (Field f : c.getDeclaredFields()) {
+      if (Modifier.isStatic(f.getModifiers())) {
+        right &= holds("static " + f.getName() + " is final", Modifier.isFinal(f.getModifiers()));
+      } else {
+        fields++;
+      }
+    }
+    right &= holds(c + " has at most twenty fields", fields <= 20);
+    for (Method m : c.getDeclaredMethods()) {
+      right &= holds(m.getName() + " takes at most seven parameters", m.getParameterCount() <= 7);
+      // A lambda leaves a synthetic method behind.
+      right &= holds(m.getName() + " is written out", !m.isSynthetic());
+    }
+    return right;
+  }
+
+  private static boolean holds(String rule, boolean right) {
+    if (!right) {
+      System.out.println("does not hold: " + rule);
     }
     return right;
   }
